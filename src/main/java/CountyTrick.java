@@ -1314,7 +1314,7 @@ public final class CountyTrick {
         private void takeNumber() {
             value = 0;
             while (at < length && isFigureAt(at)) {
-                value = (value * 10 + byteAt(at) - '0') % 100;
+                value = value * 10 + byteAt(at) - '0';
                 at++;
             }
             sort = at - begin <= 2 ? NUMBER : WRONG;

@@ -102,6 +102,7 @@ public final class PromiseTests {
         status();
         count();
         digest();
+        nowIsNow();
         extremes();
         System.out.println(wrong == 0 ? "all promises hold" : wrong + " answers are not as due");
         if (wrong != 0) {
@@ -144,7 +145,7 @@ public final class PromiseTests {
         x.saw(0, 0);
         x.note(0, 1, 0, 0, 2);
         x.mark(0, 0, 0, 1);
-        x.does(29);
+        x.does(1);
         x.rest(3);
         x.fails(1, 3);
         x.type(65);
@@ -728,6 +729,12 @@ public final class PromiseTests {
         two.rest(6);
         two.show(PLAIN, 29, 9);
         due("the loud one alone", two.enough(14), 8);
+        CountyTrick five = new CountyTrick();
+        for (int cell : new int[] {1, 6, 17, 22, 25}) {
+            five.watcher(PLAIN, cell);
+            five.show(PLAIN, cell, 3);
+        }
+        due("all five", five.enough(14), 31);
     }
 
     private static void place() {
@@ -1047,6 +1054,11 @@ public final class PromiseTests {
         due("not on", x.game(0, 0, 29), 0);
         x.watcher(STIFF, 14);
         x.watcher(SURVEYOR, 14);
+        x.turns(0, 1);
+        x.moves(0, 11);
+        due("from 0 all is seen, from 11 nothing", x.game(2, 0, 11), bits(0, 1));
+        due("from 11 nothing, from 0 all", x.game(2, 11, 0), bits(2, 3));
+        x.turns(0, 0);
         due("another watcher", x.game(2, 0, 29), 15);
         due("where one stands", x.about(0, 1), 0);
         due("game(3, 0, 1)", x.game(3, 0, 1), BAD);
@@ -1188,6 +1200,35 @@ public final class PromiseTests {
         x.from(1);
         x.from(0);
         due("count(0)", x.count(0), 0);
+        imagesApart();
+    }
+
+    /** What comes behind an image touches nothing of it, not what may be undone, nor a row of notes. */
+    private static void imagesApart() {
+        CountyTrick x = new CountyTrick();
+        x.watcher(STIFF, 14);
+        x.show(LAUGH, 3, 4);
+        x.mark(0, 1, 2, 1);
+        x.moves(0, 9);
+        x.does(14);
+        long digest = x.digest();
+        x.image(0);
+        x.land();
+        x.watcher(OLD, 2);
+        x.show(FIRE, 6, 6);
+        x.mark(0, 3, 4, 0);
+        x.moves(0, 10);
+        x.turns(0, 0);
+        x.sends(0, 20);
+        x.from(0);
+        due("digest()", x.digest(), digest);
+        due("undo()", x.undo(), 0);
+        due("of(0, 1)", x.of(0, 1), 9);
+        due("undo()", x.undo(), 0);
+        due("of(0, 1)", x.of(0, 1), 3);
+        due("about(0, 0)", x.about(0, 0), STIFF);
+        due("about(0, 1)", x.about(0, 1), 14);
+        due("what(0)", x.what(0), bits(PLAIN, CHILD, STIFF, SURVEYOR, TAUGHT, OLD));
     }
 
     private static void status() {
@@ -1274,6 +1315,29 @@ public final class PromiseTests {
             11, 2, 1, 9, 8, 7, 6, 0, 1, 2, 3, 4, 1, 9, 40, 1, above, below));
         due("above", above, 3);
         due("below", below, 2);
+    }
+
+    /** A loud band hides on even steps alone: what is asked for now is asked of the step that is now. */
+    private static void nowIsNow() {
+        promise = "Promises 8, 17, 18, 21, 22, 24, 34, 35, now";
+        CountyTrick x = plainAt0();
+        x.show(BAND, 0, 5);
+        for (int odd = 0; odd <= 1; odd++) {
+            due("drawn(0, 1)", x.drawn(0, 1), odd == 0 ? 13 : 10);
+            due("sees(0, 0)", x.sees(0, 0), odd);
+            due("sees(NONE, 0)", x.sees(NONE, 0), odd);
+            due("enough(0)", x.enough(0), odd == 0 ? 1 : NONE);
+            due("place(0, 0, 1)", x.place(0, 0, 1), odd);
+            due("guard(0, 0)", x.guard(0, 0), odd == 0 ? 23 : 22);
+            due("guard(0, 1)", x.guard(0, 1), odd == 0 ? 13 : 23);
+            due("game(0, 0, 29)", x.game(0, 0, 29), odd == 0 ? bits(0, 2) : 0);
+            failsBy(x, 0, 0, odd, 1);
+            due("does(0)", x.does(0), odd);
+        }
+        due("knows", x.about(0, 2), 1);
+        type(x, "land;show 1 0 5;watcher 0 0;do 0;do 0;do 0;");
+        x.read();
+        due("knows, by the text", x.about(0, 2), 1);
     }
 
     /** Any numbers, in any state: answers as for wrong ones, nothing thrown. */

@@ -849,7 +849,8 @@ public final class ModelRuns {
             int before = wrong;
             if (dice.nextInt(4) == 0) typeAll();
             while (told.size() < 512 && wrong == before) {
-                if (dice.nextInt(500) == 0) typeAll();
+                // a text takes some 200 calls at most, and an object is good for 512
+                if (dice.nextInt(500) == 0 && told.size() <= 300) typeAll();
                 call(dice.nextInt(100));
             }
         }
